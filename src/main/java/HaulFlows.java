@@ -137,10 +137,13 @@ public final class HaulFlows {
         if (state != PLANNED || !isBelow(side, 2) || !isBelow(part, 2)) {
             return BAD;
         }
-        if (!isBelow(k, side == 0 ? site.cuts : site.fills) || side == 0 && site.gives(k) == 0) {
+        if (!isBelow(k, side == 0 ? site.cuts : site.fills)) {
             return BAD;
         }
-        return partOfChange(side == 0 ? plan.priceOfOneLess(k) : plan.priceOfOneMore(k), part);
+        if (side == 1) {
+            return partOfChange(plan.priceOfOneMore(k), part);
+        }
+        return site.gives(k) == 0 ? BAD : partOfChange(plan.priceOfOneLess(k), part);
     }
 
     public int clash(int k) {
@@ -178,7 +181,7 @@ public final class HaulFlows {
     }
 
     public long mass(long metre, int part) {
-        if (!isMetre(metre) || !isBelow(part, 4) || part >= 2 && state != PLANNED) {
+        if (!isMetre(metre) || !isBelow(part, 4) || (part >= 2 && state != PLANNED)) {
             return BAD;
         }
         switch (part) {
@@ -591,7 +594,7 @@ public final class HaulFlows {
             key[start] = 0;
             for (int turn = 0; turn < NODES; turn++) {
                 int node = nearest();
-                if (node < 0 || node < SOURCES && load[node * COLUMNS + IDLE] > 0) {
+                if (node < 0 || (node < SOURCES && load[node * COLUMNS + IDLE] > 0)) {
                     return node;
                 }
                 done[node] = true;
@@ -709,7 +712,7 @@ public final class HaulFlows {
             Arrays.fill(before, UNSEEN);
             queued = 0;
             enqueue(SOURCES + fill, SOURCES + fill);
-            for (int next = 0; next < queued; next++) {
+            for (int next = 0; next < queued && next < NODES; next++) {
                 int node = queue[next];
                 if (node < SOURCES) {
                     enqueueColumns(node);
@@ -825,10 +828,10 @@ public final class HaulFlows {
             before[start] = start;
             queue[0] = start;
             int queued = 1;
-            for (int next = 0; next < queued && before[end] == UNSEEN; next++) {
+            for (int next = 0; next < queued && next < NODES && before[end] == UNSEEN; next++) {
                 int row = queue[next] * NODES;
                 for (int node = 0; node < NODES; node++) {
-                    if (rest[row + node] > 0 && before[node] == UNSEEN) {
+                    if (rest[row + node] > 0 && before[node] == UNSEEN && queued < NODES) {
                         before[node] = queue[next];
                         queue[queued] = node;
                         queued++;
