@@ -62,7 +62,7 @@ public final class PromisesTest {
         return x;
     }
 
-    /** One fill that nothing serves; the run is 1. */
+    /** A fill that wants more than there is; the run is 1. */
     private static HaulFlows dearth() {
         HaulFlows x = new HaulFlows();
         x.cut(5, 0, 0, 0);
