@@ -64,7 +64,7 @@ final class Due {
         try {
             return call.getAsLong();
         } catch (IllegalStateException e) {
-            return ILLEGAL_STATE;
+            return e.getClass() == IllegalStateException.class ? ILLEGAL_STATE : OTHER_THROW;
         } catch (RuntimeException e) {
             return OTHER_THROW;
         }
